@@ -71,6 +71,13 @@ public final class ImagesTest {
         x.restore(1);
         CHECK.due("sights forgotten when kept", x.told(4), 0);
         CHECK.due("posts then", x.posts(-1), 410);
+        PaleMoor y = new PaleMoor();
+        y.likes(0, 0, 1023);
+        y.image(0);
+        y.likes(0, 0, 123);
+        CHECK.due("0 and 0 like each other best", y.wed(0, 0, 0), 0);
+        y.restore(0);
+        CHECK.due("0 likes 1 best again, who likes 0 best", y.wed(0, 0, 0), 1);
     }
 
     private static void imageRefusals() {

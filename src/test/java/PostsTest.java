@@ -140,6 +140,12 @@ public final class PostsTest {
         yearIs(x, 1, 1, 21, 0, 5);
         // Seed 4: x 374, man 3, lot 5, z 6: a wind of 1.
         yearIs(x, 4, 1, 21, 0, 5);
+        x.pale(0, 1, 3);
+        x.pale(0, 2, 4);
+        yearIs(x, 1, 1, 20, 0, 5);
+        yearIs(x, 4, 1, 19, 0, 5);
+        x.pale(0, 1, 1);
+        x.pale(0, 2, 1);
         // Seed 3: x 299, man 5, lot 2, z 5: f is there already.
         yearIs(x, 3, 1, 0, 0, 5);
         // Seed 5: x 449, man 1, lot 0, z 8: b is there already.
