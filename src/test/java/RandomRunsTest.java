@@ -1,6 +1,6 @@
 import java.util.Random;
 
-/** Runs of 512 random calls, ordinary and wrong ones, on PaleMoor and on Oracle, which must answer alike. */
+/** Runs of some 512 random steps (a step may be several calls), ordinary and wrong ones, on PaleMoor and on Oracle. */
 public final class RandomRunsTest {
     private static final Check CHECK = new Check();
     private static final int RUNS = 400;
