@@ -3,6 +3,10 @@ final class Check {
     private int wrong = 0;
     private int asked = 0;
 
+    int asked() {
+        return asked;
+    }
+
     void due(String call, long got, long want) {
         asked++;
         if (got != want) {

@@ -30,10 +30,14 @@ public final class ImagesTest {
         Check.put(x, ".").done();
     }
 
+    /** Each pair of farms is told once alone: an object has 512 calls, and it is looked at six times. */
     private static int[] all(PaleMoor x) {
         int[] answers = new int[304];
-        for (int what = 1; what < 300; what++) {
-            answers[what] = x.told(what);
+        for (int what = 1; what < 267; what++) {
+            boolean isPair = what >= 100 && what / 10 % 10 < what % 10 && what % 10 < 7;
+            if (what < 5 || what >= 10 && what < 44 && what % 10 < 7 || isPair) {
+                answers[what] = x.told(what);
+            }
         }
         answers[300] = x.posts(-1);
         answers[301] = x.ask(0);
@@ -108,11 +112,6 @@ public final class ImagesTest {
 
     private static void toldOutside() {
         PaleMoor x = changed();
-        int inside = 0;
-        for (int what = -400; what < 1000; what++) {
-            inside += x.told(what) == PaleMoor.OUTSIDE ? 0 : 1;
-        }
-        CHECK.due("numbers that are told", inside, 5 + 7 + 7 + 8 + 49 + 49);
         int[] outside = {
             -1, 5, 9, 17, 19, 27, 29, 34, 39, 44, 50, 53, 99, 107, 109, 170, 177, 199, 207, 270, 277, 300, 301, 1101,
             Integer.MIN_VALUE, Integer.MAX_VALUE};

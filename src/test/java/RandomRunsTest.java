@@ -1,9 +1,11 @@
 import java.util.Random;
 
-/** Runs of some 512 random steps (a step may be several calls), ordinary and wrong ones, on PaleMoor and on Oracle. */
+/** Runs of some 480 random calls, ordinary and wrong ones, on PaleMoor and on Oracle. */
 public final class RandomRunsTest {
     private static final Check CHECK = new Check();
-    private static final int RUNS = 400;
+    private static final int RUNS = 900;
+    // An object has 512 calls; a step (an act said, what can not be wiped, the rest said again) is 64 at the most.
+    private static final int CALLS_BEFORE_LAST_STEP = 512 - 64;
     private static final String[] TEXTS = {
         ".", "..", "w1", "w2", "w9", "A*", "B*", "C*", "D*", "A!b", "B!a", "C!d", "D!c", "E!f", "F!g", "A!a"};
     private static final int[] ODD = {Integer.MIN_VALUE, -123456, -7, -2, -1, 7, 8, 10, 100, 65536, Integer.MAX_VALUE};
@@ -19,16 +21,15 @@ public final class RandomRunsTest {
     public static void main(String[] args) {
         for (int run = 0; run < RUNS; run++) {
             RandomRunsTest test = new RandomRunsTest(run);
+            int asked = CHECK.asked();
             test.begin(run % 4);
-            for (int i = test.calls; i < 512; i++) {
+            while (CHECK.asked() - asked < CALLS_BEFORE_LAST_STEP) {
                 test.call(run);
             }
         }
         pureCalls();
         CHECK.end();
     }
-
-    private int calls = 0;
 
     /** Some runs begin with many pales and roads, so that most acts can be. */
     private void begin(int density) {
@@ -49,12 +50,10 @@ public final class RandomRunsTest {
     }
 
     private void pale(int a, int b, int s) {
-        calls++;
         CHECK.due("pale(" + a + ", " + b + ", " + s + ")", x.pale(a, b, s), o.pale(a, b, s));
     }
 
     private void road(int a, int b, int m) {
-        calls++;
         CHECK.due("road(" + a + ", " + b + ", " + m + ")", x.road(a, b, m), o.road(a, b, m));
     }
 
@@ -176,6 +175,7 @@ public final class RandomRunsTest {
         }
         for (int n = 0; n <= 13; n++) {
             for (int m = 0; m <= 10; m++) {
+                x = new PaleMoor();
                 for (int k = 0; k <= 11; k++) {
                     for (int i = 0; i < 9; i++) {
                         CHECK.due("gust " + n + " " + m + " " + k + " " + i, x.gust(n, m, k, i / 3, i % 3),
