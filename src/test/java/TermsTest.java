@@ -1,7 +1,7 @@
 import java.util.ArrayList;
 import java.util.List;
 
-/** 'Terms': which refusal comes first, that refused calls change nothing, fractions, sets; and an object's 512 calls. */
+/** 'Terms': which refusal comes first, that refused calls change nothing, fractions, sets; and the 512 calls. */
 public final class TermsTest {
     private static final Check CHECK = new Check();
     private static final int UNKNOWN = -1, OUTSIDE = -2, STATE = -3, FULL = -4, NO = -5;
