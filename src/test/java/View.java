@@ -1,7 +1,7 @@
 import java.util.LinkedHashMap;
 import java.util.Map;
 
-/** All that an object answers of its state, its images too, in some 250 calls: it has 512 in all. */
+/** An object's state, and that of its images, as told and some other calls answer it: some 250 of its 512 calls. */
 final class View {
     private final Map<String, Long> answers = new LinkedHashMap<>();
     private final PaleMoor x;
